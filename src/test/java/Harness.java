@@ -1,0 +1,149 @@
+import java.util.ArrayList;
+import java.util.List;
+
+/** What the tests share: programs as text, due answers, and the exit code. */
+final class Harness {
+    private static final String[] KINDS = {
+        "", "BEGIN", "END", "VAR", "PROC", "PVAL", "PPROC", "SET", "PRINT", "GOTO", "LABEL", "CALL", "ARGV", "ARGP",
+        "DONE", "IF", "ELSE", "FI", "NUM", "REF", "ADD", "SUB", "MUL", "DIV", "MOD", "LT", "EQ"};
+
+    private static int wrong = 0;
+    private static int asked = 0;
+
+    private Harness() { }
+
+    static void due(String what, long got, long want) {
+        asked++;
+        if (got != want) {
+            wrong++;
+            System.out.println(what + " answered " + got + ", due is " + want);
+        }
+    }
+
+    static void due(String what, boolean got, boolean want) {
+        due(what, got ? 1 : 0, want ? 1 : 0);
+    }
+
+    static void finish() {
+        System.out.println(asked + " answers looked at, " + wrong + " not as due");
+        if (wrong != 0) {
+            System.exit(1);
+        }
+    }
+
+    static boolean carriesName(int kind) {
+        return kind >= 3 && kind <= 7 || kind >= 9 && kind <= 11 || kind == 13 || kind == 19;
+    }
+
+    /** Reads kinds without K_, names as a..p, numbers after NUM; a number alone means NUM and itself. */
+    static List<int[]> tokens(String text) {
+        List<int[]> tokens = new ArrayList<>();
+        String[] words = text.trim().split("\\s+");
+        for (int i = 0; i < words.length; i++) {
+            if (words[i].isEmpty()) {
+                continue;
+            }
+            int kind = kindOf(words[i]);
+            if (kind == 0) {
+                tokens.add(new int[] {18, Integer.parseInt(words[i])});
+            } else if (carriesName(kind)) {
+                i++;
+                tokens.add(new int[] {kind, words[i].charAt(0) - 'a'});
+            } else if (kind == 18) {
+                i++;
+                tokens.add(new int[] {kind, Integer.parseInt(words[i])});
+            } else {
+                tokens.add(new int[] {kind, 0});
+            }
+        }
+        return tokens;
+    }
+
+    private static int kindOf(String word) {
+        for (int kind = 1; kind < KINDS.length; kind++) {
+            if (KINDS[kind].equals(word)) {
+                return kind;
+            }
+        }
+        return 0;
+    }
+
+    static String text(List<int[]> tokens) {
+        StringBuilder text = new StringBuilder();
+        for (int[] token : tokens) {
+            text.append(KINDS[token[0]]).append(' ');
+            if (carriesName(token[0])) {
+                text.append((char) ('a' + token[1])).append(' ');
+            } else if (token[0] == 18) {
+                text.append(token[1]).append(' ');
+            }
+        }
+        return text.toString().trim();
+    }
+
+    static NonLocalJump feed(NonLocalJump x, List<int[]> tokens) {
+        for (int[] token : tokens) {
+            if (!x.token(token[0], token[1])) {
+                due("token(" + token[0] + ", " + token[1] + ")", false, true);
+            }
+        }
+        return x;
+    }
+
+    static NonLocalJump feed(NonLocalJump x, String program) {
+        return feed(x, tokens(program));
+    }
+
+    /** A new object with the greatest depth limit, the program compiled. */
+    static NonLocalJump compiled(String program) {
+        return compiled(16, program);
+    }
+
+    static NonLocalJump compiled(int depthLimit, String program) {
+        NonLocalJump x = feed(new NonLocalJump(depthLimit), program);
+        due("compile() of " + program, x.compile(), NonLocalJump.C_OK);
+        return x;
+    }
+
+    static void dueCompile(String program, int want) {
+        NonLocalJump x = feed(new NonLocalJump(16), program);
+        int count = x.tokenCount();
+        due("compile() of " + program, x.compile(), want);
+        due("status() after compile of " + program, x.status(),
+            want == NonLocalJump.C_OK ? NonLocalJump.S_RUNNING : NonLocalJump.S_EDIT);
+        due("tokenCount() after compile of " + program, x.tokenCount(), count);
+    }
+
+    static void dueOutput(String what, NonLocalJump x, int... want) {
+        due(what + ": outputCount()", x.outputCount(), want.length);
+        for (int i = 0; i < want.length; i++) {
+            due(what + ": output(" + i + ")", x.output(i), want[i]);
+        }
+    }
+
+    static void dueState(String what, NonLocalJump x, int status, int trap, int executed, int depth) {
+        due(what + ": status()", x.status(), status);
+        due(what + ": trap()", x.trap(), trap);
+        due(what + ": executed()", x.executed(), executed);
+        due(what + ": depth()", x.depth(), depth);
+    }
+
+    /** Runs a program to its normal end in one call and looks at what it printed. */
+    static void duePrints(String program, int... want) {
+        NonLocalJump x = compiled(program);
+        due("run(256) of " + program, x.run(256), NonLocalJump.S_DONE);
+        dueOutput(program, x, want);
+        due("depth() after " + program, x.depth(), 0);
+        due("trap() after " + program, x.trap(), NonLocalJump.T_NONE);
+    }
+
+    static void dueTrap(String program, int trap, int executed, int depth) {
+        NonLocalJump x = compiled(program);
+        due("run(256) of " + program, x.run(256), NonLocalJump.S_TRAP);
+        dueState(program, x, NonLocalJump.S_TRAP, trap, executed, depth);
+    }
+
+    static String repeat(String part, int times) {
+        return (part + " ").repeat(times);
+    }
+}
