@@ -131,6 +131,20 @@ final class Harness {
         due(what + ": depth()", x.depth(), depth);
     }
 
+    /** Wants x to answer as y does, whatever is asked. */
+    static void dueSame(String what, NonLocalJump x, NonLocalJump y) {
+        dueState(what, x, y.status(), y.trap(), y.executed(), y.depth());
+        due(what + ": tokenCount()", x.tokenCount(), y.tokenCount());
+        due(what + ": outputCount()", x.outputCount(), y.outputCount());
+        for (int i = -1; i <= 33; i++) {
+            due(what + ": output(" + i + ")", x.output(i), y.output(i));
+        }
+        for (int name = -1; name <= 16; name++) {
+            due(what + ": mainVar(" + name + ")", x.mainVar(name), y.mainVar(name));
+            due(what + ": seen(" + name + ")", x.seen(name), y.seen(name));
+        }
+    }
+
     /** Runs a program to its normal end in one call and looks at what it printed. */
     static void duePrints(String program, int... want) {
         NonLocalJump x = compiled(program);

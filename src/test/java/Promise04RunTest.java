@@ -264,25 +264,13 @@ public final class Promise04RunTest {
                     for (int left = total; left > 0; left -= 256) {
                         y.run(left);
                     }
-                    same(program + " after " + total, x, y);
+                    Harness.dueSame(program + " after " + total, x, y);
                     Harness.due("executed() is at most the fuel", x.executed() <= total, true);
                     if (x.status() == NonLocalJump.S_RUNNING) {
                         Harness.due("executed() is the fuel", x.executed(), total);
                     }
                 }
             }
-        }
-    }
-
-    private static void same(String what, NonLocalJump x, NonLocalJump y) {
-        Harness.dueState(what, x, y.status(), y.trap(), y.executed(), y.depth());
-        Harness.due(what + ": outputCount()", x.outputCount(), y.outputCount());
-        for (int i = -1; i <= 33; i++) {
-            Harness.due(what + ": output(" + i + ")", x.output(i), y.output(i));
-        }
-        for (int name = -1; name <= 16; name++) {
-            Harness.due(what + ": mainVar(" + name + ")", x.mainVar(name), y.mainVar(name));
-            Harness.due(what + ": seen(" + name + ")", x.seen(name), y.seen(name));
         }
     }
 }
