@@ -64,8 +64,8 @@ public final class NonLocalJump {
     private static final int WANT_ARGS = 7;
     private static final int WANT_EXPR = 8;
 
-    // The program itself is wanted first, and no token adds more than two wants (IF adds two).
-    private static final int MAX_WANTED = 1 + 2 * MAX_TOKENS;
+    // One entry to begin with, and no token pushes more than two (IF does).
+    private static final int MAX_STACK = 1 + 2 * MAX_TOKENS;
     private static final int MAX_LIVE = MAX_DEPTH + 1;
     private static final int ALL_DECLS = MAX_BODIES * MAX_NAMES;
     private static final int ALL_PARAMS = MAX_BODIES * MAX_PARAMS;
@@ -86,8 +86,8 @@ public final class NonLocalJump {
     private int printedTotal;
 
     // A stack in place of recursion: wants of the syntax check, later the open IFs.
-    private final int[] wanted = new int[MAX_WANTED];
-    private int wantedCount;
+    private final int[] stack = new int[MAX_STACK];
+    private int stackSize;
 
     // Bodies. Body 0 is the main one and its own parent, so that going outward never leaves the table.
     private final int[] bodyParent = new int[MAX_BODIES];
@@ -267,23 +267,23 @@ public final class NonLocalJump {
     }
 
     private boolean isProgram() {
-        wantedCount = 0;
-        want(WANT_PROGRAM);
+        stackSize = 0;
+        push(WANT_PROGRAM);
         for (int at = 0; at < tokenTotal; at++) {
-            if (wantedCount == 0) {
+            if (stackSize == 0) {
                 return false;
             }
             int kind = tokenKind[at];
-            int top = wantedCount - 1;
-            if (wanted[top] == WANT_DECLS && kind != K_VAR && kind != K_PROC) {
-                wanted[top] = WANT_TOPS;
+            int top = stackSize - 1;
+            if (stack[top] == WANT_DECLS && kind != K_VAR && kind != K_PROC) {
+                stack[top] = WANT_TOPS;
             }
-            if (!fits(kind, wanted[top])) {
+            if (!fits(kind, stack[top])) {
                 return false;
             }
             takeToken(kind);
         }
-        return wantedCount == 0;
+        return stackSize == 0;
     }
 
     private static boolean fits(int kind, int want) {
@@ -321,27 +321,27 @@ public final class NonLocalJump {
     private void takeToken(int kind) {
         switch (kind) {
             case K_BEGIN:
-                wanted[wantedCount - 1] = WANT_DECLS;
+                stack[stackSize - 1] = WANT_DECLS;
                 break;
             case K_ELSE:
-                wanted[wantedCount - 1] = WANT_ELSE;
+                stack[stackSize - 1] = WANT_ELSE;
                 break;
             case K_END:
             case K_FI:
             case K_DONE:
             case K_NUM:
             case K_REF:
-                wantedCount--;
+                stackSize--;
                 break;
             case K_PROC:
-                want(WANT_PARAMS);
+                push(WANT_PARAMS);
                 break;
             case K_CALL:
-                want(WANT_ARGS);
+                push(WANT_ARGS);
                 break;
             case K_IF:
-                want(WANT_THEN);
-                want(WANT_EXPR);
+                push(WANT_THEN);
+                push(WANT_EXPR);
                 break;
             case K_VAR:
             case K_PVAL:
@@ -351,16 +351,16 @@ public final class NonLocalJump {
             case K_ARGP:
                 break;
             default:
-                // SET, PRINT, ARGV, and the operators: their own want stays for the right operand.
-                want(WANT_EXPR);
+                // SET, PRINT and ARGV need one expression; an operator's own entry stays for its right operand.
+                push(WANT_EXPR);
                 break;
         }
     }
 
-    private void want(int part) {
-        if (wantedCount < MAX_WANTED) {
-            wanted[wantedCount] = part;
-            wantedCount++;
+    private void push(int entry) {
+        if (stackSize < MAX_STACK) {
+            stack[stackSize] = entry;
+            stackSize++;
         }
     }
 
@@ -493,17 +493,17 @@ public final class NonLocalJump {
     }
 
     private void linkBranches() {
-        wantedCount = 0;
+        stackSize = 0;
         for (int at = 0; at < tokenTotal; at++) {
             int kind = tokenKind[at];
             if (kind == K_IF) {
-                want(at);
-            } else if (wantedCount > 0 && kind == K_ELSE) {
-                branchTarget[wanted[wantedCount - 1]] = at + 1;
-                wanted[wantedCount - 1] = at;
-            } else if (wantedCount > 0 && kind == K_FI) {
-                branchTarget[wanted[wantedCount - 1]] = at + 1;
-                wantedCount--;
+                push(at);
+            } else if (stackSize > 0 && kind == K_ELSE) {
+                branchTarget[stack[stackSize - 1]] = at + 1;
+                stack[stackSize - 1] = at;
+            } else if (stackSize > 0 && kind == K_FI) {
+                branchTarget[stack[stackSize - 1]] = at + 1;
+                stackSize--;
             }
         }
     }
