@@ -8,8 +8,17 @@ final class Harness {
         "DONE", "IF", "ELSE", "FI", "NUM", "REF", "ADD", "SUB", "MUL", "DIV", "MOD", "LT", "EQ"};
 
     private static final int MOST_SHOWN = 40;
+    private static final String[] LIVES = {"fed", "running", "done", "trapped"};
+    // Three levels of f, each inside an IF; the innermost divides by the last number.
+    private static final String LIFE = "BEGIN VAR a VAR b PROC f PVAL c BEGIN VAR d SET d MUL REF c 10 SET a ADD REF a REF c "
+        + "PRINT REF d IF LT REF c 3 CALL f ARGV ADD REF c 1 DONE PRINT REF d ELSE SET b DIV REF b %d FI END "
+        + "SET b 40 CALL f ARGV 1 DONE PRINT REF b LABEL l END";
+    private static final String ENDLESS_RECURSION = "BEGIN PROC f BEGIN CALL f DONE END CALL f DONE END";
+
     private static int wrong = 0;
     private static int asked = 0;
+    private static int sentences = 0;
+    private static String sentence = "";
 
     private Harness() { }
 
@@ -18,7 +27,7 @@ final class Harness {
         if (got != want) {
             wrong++;
             if (wrong <= MOST_SHOWN) {
-                System.out.println(what + " answered " + got + ", due is " + want);
+                System.out.println(what + " answered " + got + ", due is " + want + sentence);
             }
         }
     }
@@ -27,7 +36,29 @@ final class Harness {
         due(what, got ? 1 : 0, want ? 1 : 0);
     }
 
+    /** Runs the test of one sentence of the document, and tells the sentence if it does not hold. */
+    static void sentence(String words, Runnable test) {
+        int askedBefore = asked;
+        int wrongBefore = wrong;
+        sentences++;
+        sentence = " [" + words + "]";
+        try {
+            test.run();
+        } catch (RuntimeException thrown) {
+            thrown.printStackTrace(System.out);
+            wrong++;
+        }
+        due("the test asks for something", asked > askedBefore, true);
+        sentence = "";
+        if (wrong > wrongBefore) {
+            System.out.println("DOES NOT HOLD: " + words);
+        }
+    }
+
     static void finish() {
+        if (sentences > 0) {
+            System.out.println(sentences + " sentences");
+        }
         System.out.println(asked + " answers looked at, " + wrong + " not as due");
         if (wrong != 0) {
             System.exit(1);
@@ -143,6 +174,38 @@ final class Harness {
             due(what + ": mainVar(" + name + ")", x.mainVar(name), y.mainVar(name));
             due(what + ": seen(" + name + ")", x.seen(name), y.seen(name));
         }
+    }
+
+    /** An object in the middle of its life: with tokens, running two calls deep, done, or trapped three calls deep. */
+    static NonLocalJump inStatus(int status, int depthLimit) {
+        NonLocalJump x = feed(new NonLocalJump(depthLimit), String.format(LIFE, status == NonLocalJump.S_TRAP ? 0 : 1));
+        if (status != NonLocalJump.S_EDIT) {
+            x.compile();
+            x.run(status == NonLocalJump.S_RUNNING ? 9 : 256);
+        }
+        due("an object " + LIVES[status] + ": status()", x.status(), status);
+        return x;
+    }
+
+    /** Wants x to answer as y does now and at all that follows, to the depth limit that a reset leaves. */
+    static void dueTwins(String what, NonLocalJump x, NonLocalJump y) {
+        dueSame(what, x, y);
+        due(what + ", further: compile()", x.compile(), y.compile());
+        for (int i = 0; i < 40; i++) {
+            dueSame(what + ", further", x, y);
+            due(what + ", further: run(1)", x.run(1), y.run(1));
+        }
+        x.reset();
+        y.reset();
+        due(what + ", then reset: depth limit", depthLimit(x), depthLimit(y));
+    }
+
+    /** The depth limit of an empty object; leaves it trapped. */
+    static int depthLimit(NonLocalJump x) {
+        feed(x, ENDLESS_RECURSION);
+        x.compile();
+        x.run(256);
+        return x.depth();
     }
 
     /** Runs a program to its normal end in one call and looks at what it printed. */
