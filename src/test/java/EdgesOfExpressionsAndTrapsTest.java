@@ -348,6 +348,9 @@ public final class EdgesOfExpressionsAndTrapsTest {
     private static void evaluationStops() {
         // What would come after the division, be it another trap, does not come.
         Harness.dueTrap("BEGIN PROC f BEGIN END CALL f ARGV ADD DIV 1 0 2 ARGV 3 DONE END", NonLocalJump.T_DIV, 1, 0);
+        Harness.dueTrap("BEGIN PROC f BEGIN END CALL f ARGV DIV 1 0 ARGV 3 DONE END", NonLocalJump.T_DIV, 1, 0);
+        Harness.dueTrap("BEGIN PROC f PVAL a PVAL b BEGIN END CALL f ARGV DIV 1 0 ARGV 3 DONE END", NonLocalJump.T_DIV, 1, 0);
+        Harness.dueTrap("BEGIN PROC f PVAL a PVAL b BEGIN END CALL f ARGV DIV 1 0 ARGP f DONE END", NonLocalJump.T_DIV, 1, 0);
         Harness.dueTrap("BEGIN " + Harness.repeat("PRINT 1", 32) + "PRINT ADD 1 DIV 1 0 END", NonLocalJump.T_DIV, 33, 0);
         Harness.dueTrap("BEGIN PRINT DIV MOD 5 0 DIV 5 0 END", NonLocalJump.T_DIV, 1, 0);
         Harness.dueTrap("BEGIN PRINT EQ DIV 1 0 DIV 1 0 PRINT 2 END", NonLocalJump.T_DIV, 1, 0);

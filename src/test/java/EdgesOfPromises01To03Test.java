@@ -159,6 +159,7 @@ public final class EdgesOfPromises01To03Test {
                 dueRefused(x, kind, 15);
                 dueRefused(x, kind, 16);
             }
+            Harness.dueLife("token refused in status " + status, x, status);
             Harness.dueTwins("token refused in status " + status, x, Harness.inStatus(status, 5));
         }
         // Refused also when nothing stood against it but the status: a short program that could go on.
@@ -206,6 +207,7 @@ public final class EdgesOfPromises01To03Test {
                 dueRefused(x, kind, value);
             }
         }
+        Harness.dueLife("token with a wrong kind", x, EDIT);
         Harness.dueTwins("token with a wrong kind", x, Harness.inStatus(EDIT, 4));
         NonLocalJump y = new NonLocalJump(4);
         for (int kind = 1; kind <= 26; kind++) {
@@ -224,6 +226,7 @@ public final class EdgesOfPromises01To03Test {
                 }
             }
         }
+        Harness.dueLife("token with a wrong name", x, EDIT);
         Harness.dueTwins("token with a wrong name", x, Harness.inStatus(EDIT, 4));
     }
 
@@ -288,6 +291,7 @@ public final class EdgesOfPromises01To03Test {
             for (int i = 0; i < 5; i++) {
                 Harness.due("tokenCount() in status " + status, asked.tokenCount(), 46);
             }
+            Harness.dueLife("tokenCount() in status " + status, asked, status);
             Harness.dueTwins("tokenCount() in status " + status, asked, Harness.inStatus(status, 5));
         }
     }
@@ -298,6 +302,7 @@ public final class EdgesOfPromises01To03Test {
             for (int i = 0; i < 3; i++) {
                 Harness.due("compile() in status " + status, x.compile(), NonLocalJump.C_REFUSED);
             }
+            Harness.dueLife("compile() refused in status " + status, x, status);
             Harness.dueTwins("compile() refused in status " + status, x, Harness.inStatus(status, 5));
         }
         NonLocalJump y = Harness.compiled("BEGIN END");

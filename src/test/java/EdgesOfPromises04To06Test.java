@@ -71,6 +71,7 @@ public final class EdgesOfPromises04To06Test {
             for (int fuel : new int[] {MIN, -1, 0, 1, 2, 256, 257, MAX}) {
                 Harness.due("run(" + fuel + ") in status " + status, x.run(fuel), status);
             }
+            Harness.dueLife("run in status " + status, x, status);
             Harness.dueTwins("run in status " + status, x, Harness.inStatus(status, 5));
         }
         Harness.due("run(1) of a new object", new NonLocalJump(1).run(1), EDIT);
@@ -364,6 +365,7 @@ public final class EdgesOfPromises04To06Test {
                 Harness.due("status()", x.status(), status);
                 Harness.due("trap()", x.trap(), status == TRAP ? NonLocalJump.T_DIV : NONE);
             }
+            Harness.dueLife("status() and trap() asked", x, status);
             Harness.dueTwins("status() and trap() asked in status " + status, x, Harness.inStatus(status, 5));
         }
     }
@@ -478,6 +480,7 @@ public final class EdgesOfPromises04To06Test {
                 Harness.due("executed()", x.executed(), executed);
                 Harness.due("depth()", x.depth(), depth);
             }
+            Harness.dueLife("executed() and depth() asked", x, status);
             Harness.dueTwins("executed() and depth() asked in status " + status, x, Harness.inStatus(status, 5));
         }
     }

@@ -58,21 +58,10 @@ public final class EdgesOfPromises07To10Test {
     }
 
     private static void readInAnyStatus() {
-        int[][] due = {
-            // tokenCount, status, trap, executed, depth, outputCount, output(0), mainVar(0), mainVar(1), seen(0), seen(2), seen(3)
-            {46, EDIT, 0, 0, 0, 0, 0, 0, 0, 0, 0, 0},
-            {46, RUNNING, 0, 9, 2, 1, 10, 3, 40, 3, 2, 20},
-            {46, DONE, 0, 21, 0, 6, 10, 6, 40, 0, 0, 0},
-            {46, TRAP, NonLocalJump.T_DIV, 17, 3, 3, 10, 6, 40, 0, 0, 0}};
-        String[] asked = {"tokenCount()", "status()", "trap()", "executed()", "depth()", "outputCount()", "output(0)", "mainVar(0)", "mainVar(1)", "seen(0)",
-            "seen(2)", "seen(3)"};
         for (int status = 0; status <= 3; status++) {
             NonLocalJump x = Harness.inStatus(status, 16);
-            int[] got = {x.tokenCount(), x.status(), x.trap(), x.executed(), x.depth(), x.outputCount(), x.output(0), x.mainVar(0), x.mainVar(1), x.seen(0),
-                x.seen(2), x.seen(3)};
-            for (int i = 0; i < asked.length; i++) {
-                Harness.due(asked[i] + " in status " + status, got[i], due[status][i]);
-            }
+            Harness.dueLife("in status " + status, x, status);
+            Harness.dueLife("in status " + status + " again", x, status);
         }
     }
 
@@ -178,6 +167,7 @@ public final class EdgesOfPromises07To10Test {
             }
             x.output(MIN);
             x.output(MAX);
+            Harness.dueLife("outputCount() and output(i) asked", x, status);
             Harness.dueTwins("outputCount() and output(i) asked in status " + status, x, Harness.inStatus(status, 5));
         }
     }
@@ -321,6 +311,7 @@ public final class EdgesOfPromises07To10Test {
             }
             x.mainVar(MIN);
             x.mainVar(MAX);
+            Harness.dueLife("mainVar(name) asked", x, status);
             Harness.dueTwins("mainVar(name) asked in status " + status, x, Harness.inStatus(status, 5));
         }
     }
@@ -450,6 +441,7 @@ public final class EdgesOfPromises07To10Test {
             }
             x.seen(MIN);
             x.seen(MAX);
+            Harness.dueLife("seen(name) asked", x, status);
             Harness.dueTwins("seen(name) asked in status " + status, x, Harness.inStatus(status, 5));
         }
     }

@@ -290,6 +290,9 @@ public final class EdgesOfStatementsTest {
         // g of the caller, though the callee has a g of its own.
         Harness.duePrints("BEGIN PROC f PPROC a BEGIN PROC g BEGIN PRINT 2 END CALL a DONE CALL g DONE END "
             + "PROC h PVAL n BEGIN PROC g BEGIN PRINT REF n END CALL f ARGP g DONE END CALL h ARGV 8 DONE END", 8, 2);
+        // g that is nearest to the caller, though main has one too.
+        Harness.duePrints("BEGIN PROC g BEGIN PRINT 1 END PROC f PPROC a BEGIN CALL a DONE END PROC h BEGIN PROC g BEGIN PRINT 2 END CALL f ARGP g DONE END "
+            + "CALL h DONE CALL f ARGP g DONE END", 2, 1);
         Harness.duePrints("BEGIN PROC f PPROC a PPROC b BEGIN CALL b DONE CALL a DONE END PROC g BEGIN PRINT 1 END PROC h BEGIN PRINT 2 END "
             + "CALL f ARGP g ARGP h DONE CALL f ARGP h ARGP h DONE END", 2, 1, 2, 2);
     }

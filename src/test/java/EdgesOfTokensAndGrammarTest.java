@@ -122,6 +122,12 @@ public final class EdgesOfTokensAndGrammarTest {
         Harness.dueCompile("PRINT 1 BEGIN END", SYNTAX);
         Harness.dueCompile("BEGIN END PRINT 1", SYNTAX);
         Harness.dueCompile("PROC a BEGIN END", SYNTAX);
+        // Nothing but END ends a body.
+        for (String end : new String[] {"DONE", "FI", "ELSE", "1", "BEGIN"}) {
+            Harness.dueCompile("BEGIN " + end, SYNTAX);
+            Harness.dueCompile("BEGIN PRINT 1 " + end, SYNTAX);
+            Harness.dueCompile("BEGIN PROC f BEGIN " + end + " END", SYNTAX);
+        }
         String longest = "BEGIN " + Harness.repeat("PRINT 1", 127) + "END";
         Harness.due("the longest program: tokens", Harness.tokens(longest).size(), 256);
         Harness.dueCompile(longest, OK);
@@ -134,7 +140,8 @@ public final class EdgesOfTokensAndGrammarTest {
         String[] right = {"", "VAR a", "VAR a VAR b", "PRINT 1", "LABEL a", "VAR a PRINT 1", "PROC b BEGIN END", "VAR a PROC b BEGIN END VAR c",
             "PROC b BEGIN END LABEL a", "LABEL a LABEL b PRINT 1 LABEL c"};
         String[] wrong = {"PRINT 1 VAR a", "LABEL a VAR b", "PRINT 1 PROC b BEGIN END", "LABEL a PROC b BEGIN END",
-            "VAR a PRINT 1 VAR b", "IF 1 FI VAR a", "PVAL a", "PPROC a", "VAR a PVAL b", "BEGIN END", "DONE", "FI", "ELSE", "1", "REF a"};
+            "VAR a PRINT 1 VAR b", "IF 1 FI VAR a", "PVAL a", "PPROC a", "VAR a PVAL b", "BEGIN END", "DONE", "FI", "ELSE", "1", "REF a", "ARGV 1",
+            "VAR a ARGV REF a", "PROC b BEGIN END ARGP b", "PRINT 1 DONE", "ADD 1 2"};
         for (String body : right) {
             Harness.dueCompile("BEGIN " + body + " END", OK);
             Harness.dueCompile("BEGIN PROC p BEGIN " + body + " END END", OK);
@@ -180,6 +187,8 @@ public final class EdgesOfTokensAndGrammarTest {
         Harness.dueCompile(start + Harness.repeat("ARGV 1", 124) + "DONE END", OK);
         Harness.dueCompile(start + Harness.repeat("ARGP f", 249) + "DONE END", OK);
         Harness.dueCompile(start + "END", SYNTAX);
+        Harness.dueCompile(start + "END END", SYNTAX);
+        Harness.dueCompile(start + "FI END", SYNTAX);
         Harness.dueCompile(start + "DONE DONE END", SYNTAX);
         Harness.dueCompile(start + "ARGV DONE END", SYNTAX);
         Harness.dueCompile(start + "ARGV 1 2 DONE END", SYNTAX);
@@ -197,7 +206,7 @@ public final class EdgesOfTokensAndGrammarTest {
             "IF 1 PRINT 1 PRINT 2 ELSE PRINT 3 PRINT 4 FI", "IF 1 IF 1 ELSE FI FI", "IF 1 IF 1 FI ELSE IF 1 ELSE FI FI", "IF 1 FI IF 1 FI"};
         String[] wrong = {"IF FI", "IF 1", "IF ELSE FI", "IF 1 ELSE", "IF 1 2 FI", "IF 1 ELSE ELSE FI", "IF 1 FI FI", "IF 1 FI ELSE FI",
             "IF 1 ELSE FI ELSE FI", "IF 1 IF 1 FI", "IF 1 IF 1 ELSE FI ELSE", "ELSE FI", "IF 1 DONE FI", "IF PRINT 1 FI", "IF 1 VAR a FI",
-            "IF 1 ELSE VAR a FI", "IF 1 PROC a BEGIN END FI", "IF 1 BEGIN END FI", "IF 1 END FI"};
+            "IF 1 ELSE VAR a FI", "IF 1 PROC a BEGIN END FI", "IF 1 BEGIN END FI", "IF 1 END FI", "IF 1 END", "IF 1 ELSE END", "IF 1 PRINT 1 END", "IF 1 DONE", "IF 1 ELSE DONE"};
         for (String statement : right) {
             Harness.dueCompile("BEGIN " + statement + " END", OK);
         }

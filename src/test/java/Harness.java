@@ -13,6 +13,14 @@ final class Harness {
     private static final String LIFE = "BEGIN VAR a VAR b PROC f PVAL c BEGIN VAR d SET d MUL REF c 10 SET a ADD REF a REF c "
         + "PRINT REF d IF LT REF c 3 CALL f ARGV ADD REF c 1 DONE PRINT REF d ELSE SET b DIV REF b %d FI END "
         + "SET b 40 CALL f ARGV 1 DONE PRINT REF b LABEL l END";
+    // What such objects answer, by their status; every other output, main variable and seen name is 0.
+    private static final int LIFE_TOKENS = 46;
+    private static final int[] LIFE_TRAP = {0, 0, 0, 1};
+    private static final int[] LIFE_EXECUTED = {0, 9, 21, 17};
+    private static final int[] LIFE_DEPTH = {0, 2, 0, 3};
+    private static final int[][] LIFE_OUTPUT = {{}, {10}, {10, 20, 30, 20, 10, 40}, {10, 20, 30}};
+    private static final int[][] LIFE_MAIN = {{}, {3, 40}, {6, 40}, {6, 40}};
+    private static final int[][] LIFE_SEEN = {{}, {3, 40, 2, 20}, {}, {}};
     private static final String ENDLESS_RECURSION = "BEGIN PROC f BEGIN CALL f DONE END CALL f DONE END";
 
     private static int wrong = 0;
@@ -185,6 +193,22 @@ final class Harness {
         }
         due("an object " + LIVES[status] + ": status()", x.status(), status);
         return x;
+    }
+
+    /** Wants an object that inStatus made to answer as it has to, so that a first reading that spoils it is found. */
+    static void dueLife(String what, NonLocalJump x, int status) {
+        dueState(what, x, status, LIFE_TRAP[status], LIFE_EXECUTED[status], LIFE_DEPTH[status]);
+        due(what + ": tokenCount()", x.tokenCount(), LIFE_TOKENS);
+        due(what + ": outputCount()", x.outputCount(), LIFE_OUTPUT[status].length);
+        for (int i = -2; i < 40; i++) {
+            due(what + ": output(" + i + ")", x.output(i), at(LIFE_OUTPUT[status], i));
+            due(what + ": mainVar(" + i + ")", x.mainVar(i), at(LIFE_MAIN[status], i));
+            due(what + ": seen(" + i + ")", x.seen(i), at(LIFE_SEEN[status], i));
+        }
+    }
+
+    private static int at(int[] values, int i) {
+        return i >= 0 && i < values.length ? values[i] : 0;
     }
 
     /** Wants x to answer as y does now and at all that follows, to the depth limit that a reset leaves. */
